@@ -198,39 +198,12 @@ public final class BlocksTest {
         TEST.due("state(8), LOSS at first", sender.desk.state(8), 1);
     }
 
-    /** A desk with something of everything. */
-    private static Sender filled() {
-        Sender sender = Sender.synced(7);
-        sender.desk.feed(0, 5);
-        sender.desk.forget();
-        sender.typed(7, 22, 0, 0, 0);
-        for (int s = 0; s < 4; s++) {
-            sender.typed(7, 0, 0b11100 | s, 225 << 8 | 9, 0x4142);
-        }
-        sender.typed(7, 0, 0, 227 << 8 | 250, 0x4142);
-        sender.typed(7, 2, 0, 0x00E1, 1);
-        sender.typed(7, 2, 0, 0x3005, 1);
-        sender.typed(7, 2, 0, 0x7123, 1);
-        sender.typed(7, 4, 0, 0x410D, 0x4142);
-        sender.typed(7, 4, 3, 0x410D, 0x4142);
-        sender.typed(7, 6, 22, 0xABCD, 19415);
-        sender.typed(7, 8, 1, 0x1234, 0x0001);
-        sender.typed(7, 20, 0, 0x4142, 0x4344);
-        sender.typed(7, 20, 1, 0x4142, 0x4344);
-        sender.typed(7, 20, 1, 0x4142, 0x4344);
-        sender.typed(7, 22, 31, 0x1234, 0x5678);
-        for (int v = 0; v < 16; v++) {
-            sender.typed(7, 28, 16 | v, 0x4142, 8);
-        }
+    private static void forgets() {
+        TEST.about("5: ahead of forget");
+        Sender sender = Sender.filled(7);
         sender.one(Sender.RUINED, Sender.A);
         sender.words(Sender.block(0, Sender.B) ^ 1);
         sender.desk.feed(1, 7);
-        return sender;
-    }
-
-    private static void forgets() {
-        TEST.about("5: ahead of forget");
-        Sender sender = filled();
         RdsDesk desk = sender.desk;
         TEST.due("state(0)", desk.state(0), 1);
         for (int what = 0; what <= 5; what++) {
