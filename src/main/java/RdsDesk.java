@@ -356,7 +356,6 @@ public final class RdsDesk {
         int losses;
 
         void clear() {
-            atHand.clear(NONE);
             Arrays.fill(looked, 0);
             beginSearch();
             bits = 0;
@@ -377,7 +376,11 @@ public final class RdsDesk {
         boolean accept(int bit) {
             bits++;
             word = (word << 1 | bit) & BLOCK_MASK;
-            return place == NONE ? search() : follow();
+            if (place != NONE) {
+                return follow();
+            }
+            int hit = search();
+            return hit != NONE && synchronise(hit);
         }
 
         private boolean follow() {
@@ -389,12 +392,13 @@ public final class RdsDesk {
             return lookAt(word);
         }
 
-        private boolean search() {
+        /** The PLACE of a HIT that is SYNC; NONE without one. */
+        private int search() {
             came = Math.min(came + 1, ENOUGH_BITS);
             newest = newest >= 0 && newest + 1 < WORDS ? newest + 1 : 0;
             words[newest] = word;
             int hit = hitAhead(0);
-            return hit != NONE && isSync(hit) && synchronise(hit);
+            return hit != NONE && isSync(hit) ? hit : NONE;
         }
 
         /** The 26 bits that ended so many BLOCKS ahead; NONE if not all of them came in this SEARCH. */
@@ -422,11 +426,9 @@ public final class RdsDesk {
 
         private boolean synchronise(int hit) {
             syncs++;
-            waited = 0;
-            window.clear();
             atHand.clear(MISSING);
-            boolean isTaken = false;
             place = 0;
+            boolean isTaken = false;
             for (int i = 0; i <= hit && place != NONE; i++) {
                 int found = wordAhead(hit - i);
                 if (found == NONE) {
@@ -534,26 +536,7 @@ public final class RdsDesk {
             if (bearsTags(group)) {
                 tags.take(b, group.what(2), group.what(3));
             }
-            takeByType(group, b);
-        }
-
-        private void takeIdentity(int identity) {
-            if (identity == NONE) {
-                return;
-            }
-            if (facts[PI] != NONE && facts[PI] != identity) {
-                clear();
-            }
-            facts[PI] = identity;
-        }
-
-        private boolean bearsTags(Group group) {
-            int type = group.typeAndVersion();
-            return (type & 1) == 0 && type == odas.typeOf(TAGS_AID) && group.knowsCAndD();
-        }
-
-        /** The cases are TYPE times 2 and the version. */
-        private void takeByType(Group group, int b) {
+            // The cases are TYPE times 2 and the version.
             switch (group.typeAndVersion()) {
                 case 0: takeTuning(group, b, true); break;
                 case 1: takeTuning(group, b, false); break;
@@ -569,6 +552,21 @@ public final class RdsDesk {
                 case 31: takeSwitches(b); break;
                 default: break;
             }
+        }
+
+        private void takeIdentity(int identity) {
+            if (identity == NONE) {
+                return;
+            }
+            if (facts[PI] != NONE && facts[PI] != identity) {
+                clear();
+            }
+            facts[PI] = identity;
+        }
+
+        private boolean bearsTags(Group group) {
+            int type = group.typeAndVersion();
+            return (type & 1) == 0 && type == odas.typeOf(TAGS_AID) && group.knowsCAndD();
         }
 
         private void takeSwitches(int b) {
@@ -789,8 +787,6 @@ public final class RdsDesk {
         void clear() {
             isUnderWay = false;
             isLowNext = false;
-            wanted = 0;
-            has = 0;
             length = 0;
             completed = 0;
         }

@@ -233,6 +233,22 @@ public final class BlocksTest {
         TEST.due("other(0, 11)", desk.other(0, 11), 0);
         TEST.due("otherLetter(0, 0)", desk.otherLetter(0, 0), -1);
         forgottenBits();
+        forgottenCounts();
+    }
+
+    private static void forgottenCounts() {
+        TEST.about("5: counts are forgotten");
+        Sender sender = Sender.synced(7);
+        sender.desk.set(5, 2);
+        sender.words(Sender.block(7, Sender.A) ^ 1);
+        sender.one(Sender.RUINED, Sender.B);
+        TEST.due("state(10)", sender.desk.state(10), 1);
+        sender.one(Sender.RUINED, Sender.C);
+        for (int what = 1; what <= 8; what++) {
+            TEST.due("state(" + what + ") > 0", sender.desk.state(what) > 0, true);
+        }
+        sender.desk.forget();
+        asNew(TEST, sender.desk);
     }
 
     private static void forgottenBits() {

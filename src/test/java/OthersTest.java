@@ -93,6 +93,10 @@ public final class OthersTest {
         due(sender, 0, -1, -1);
         send(sender, 1, 14, R, 8);
         due(sender, 0, 8, 1, -1, -1, -1, -1, -1, -1, -1, -1, -1, 0);
+        for (int v = 0; v < 16; v++) {
+            send(sender, 1, v, R, 8);
+        }
+        due(sender, 0, 8, 1, -1, -1, -1, -1, -1, -1, -1, -1, -1, 0);
         TEST.about("16: one of PI 0, and one of the own PI");
         send(sender, 0, 14, 6, 0);
         send(sender, 0, 14, 9, PI);

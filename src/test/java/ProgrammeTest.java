@@ -213,8 +213,8 @@ public final class ProgrammeTest {
         sender.typed(7, 2, 0, 0x0FE1, R);
         due(sender, 7, 0xE1);
         due(sender, 8, -1);
-        sender.typed(7, 2, 0, 0xBF09, R);
-        due(sender, 8, 9);
+        sender.typed(7, 2, 0, 0xBF89, R);
+        due(sender, 8, 0x89);
         due(sender, 9, -1);
         sender.typed(7, 2, 0, 0xFABC, R);
         due(sender, 9, 0xABC);
@@ -223,7 +223,7 @@ public final class ProgrammeTest {
             sender.typed(7, 2, 0, variant << 12 | 0x077, R);
         }
         due(sender, 7, 0xE1);
-        due(sender, 8, 9);
+        due(sender, 8, 0x89);
         due(sender, 9, 0xABC);
         sender.typed(7, 2, 0, 0x8000, R);
         due(sender, 7, 0);

@@ -58,12 +58,12 @@ final class Sender {
         one(d, D);
     }
 
-    /** A group of a type and version, whose block 0 has the PI and whose TP and PTY are 0. */
+    /** A group of a type and version, whose block 0 has the PI; TP and PTY are all ones, next to the five bits. */
     void typed(int pi, int typeAndVersion, int five, int c, int d) {
-        group(pi, second(typeAndVersion, 0, 0, five), c, d);
+        group(pi, second(typeAndVersion, 1, 31, five), c, d);
     }
 
-    /** A desk in sync behind one group that tells PI, TP 0 and PTY 0 alone (it is of type 11A). */
+    /** A desk in sync behind one group that tells PI, TP and PTY alone (it is of type 11A). */
     static Sender synced(int pi) {
         Sender sender = new Sender();
         sender.typed(pi, 22, 0, 0, 0);

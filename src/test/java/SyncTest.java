@@ -325,6 +325,28 @@ public final class SyncTest {
         sender.one(0, Sender.D);
         dueState(sender.desk, 10, 0);
         dueState(sender.desk, 4, 1);
+        TEST.about("6: the very first of those that count goes when the 51st comes");
+        sender = new Sender();
+        sender.one(R, Sender.A);
+        for (int i = 1; i < 50; i++) {
+            sender.one(0, i % 4);
+        }
+        dueState(sender.desk, 2, 49);
+        dueState(sender.desk, 10, 1);
+        sender.one(0, Sender.C);
+        dueState(sender.desk, 10, 0);
+        TEST.about("6: a SYNC behind one of more than fifty blocks counts from its own begin");
+        sender.desk.set(5, 2);
+        sender.one(R, Sender.D);
+        sender.one(R, Sender.A);
+        dueState(sender.desk, 8, 1);
+        sender.one(R, Sender.A);
+        for (int i = 1; i < 50; i++) {
+            sender.one(0, i % 4);
+        }
+        dueState(sender.desk, 10, 1);
+        sender.one(0, Sender.C);
+        dueState(sender.desk, 10, 0);
         TEST.about("6: those of an earlier SYNC don't count");
         sender = Sender.synced(7);
         sender.desk.set(5, 2);
@@ -350,6 +372,22 @@ public final class SyncTest {
         dueState(sender.desk, 0, 1);
         dueGroup(sender.desk, -1, -1, 1, 2, 3, 3, 0, 0, -1);
         dueState(sender.desk, 1, 8 * 26);
+        lastBitOfALostBlock(0x0007);
+        lastBitOfALostBlock(0x8007);
+    }
+
+    /** 25 bits behind LOST are no block, not even with the bit ahead of them. */
+    private static void lastBitOfALostBlock(int information) {
+        TEST.about("6: 25 bits behind LOST");
+        for (int ruin = 0; ruin < 16; ruin++) {
+            Sender sender = Sender.synced(7);
+            sender.desk.set(0, 1);
+            sender.words(Sender.block(ruin, Sender.A) ^ Sender.WRONG_BITS);
+            sender.desk.feed(Sender.block(information, Sender.C), 25);
+            sender.one(0x0F0F, Sender.D);
+            dueState(sender.desk, 7, 1);
+            dueState(sender.desk, 8, 1);
+        }
     }
 
     private static void restOfAFeedBehindLost() {

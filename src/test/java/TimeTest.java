@@ -52,22 +52,18 @@ public final class TimeTest {
                 local.getDayOfMonth(), local.getHour(), local.getMinute(), -1);
     }
 
+    /** Every DAY that 17 bits can tell; a desk is used for twenty of them. */
     private static void days() {
-        for (int day = 0; day < 1 << 17; day += 61) {
+        Sender sender = null;
+        for (int day = 0; day < 1 << 17; day++) {
             TEST.about("13: DAY " + day);
-            Sender sender = Sender.synced(PI);
+            if (day % 20 == 0) {
+                sender = Sender.synced(PI);
+            }
             int hour = day % 24;
             int offset = day % 57 - 28;
             send(sender, day, hour, day % 60, offset < 0 ? 1 : 0, Math.abs(offset));
             dueByCalendar(sender, day, hour, day % 60, offset);
-        }
-        // Ends of February in years of the three kinds: 1900, 2000, 2004, 2100; and the last DAY.
-        int[] edges = {15077, 15078, 15079, 51602, 51603, 51604, 51605, 53063, 53064, 53065, 88127, 88128, 131071};
-        for (int day : edges) {
-            TEST.about("13: DAY " + day);
-            Sender sender = Sender.synced(PI);
-            send(sender, day, 12, 0, 0, 0);
-            dueByCalendar(sender, day, 12, 0, 0);
         }
     }
 
