@@ -221,11 +221,12 @@ public final class BlocksTest {
         desk.forget();
         asNew(TEST, desk);
         TEST.about("5: what was under way is forgotten too");
-        sender.typed(7, 0, 0, 9 << 8 | 225, 0x4142);
+        sender.typed(7, 0, 0, 9 << 8 | 9, 0x4142);
         TEST.due("marks(0)", desk.marks(0), 1);
+        TEST.due("state(2)", desk.state(2), 4);
+        sender.typed(7, 0, 0, 9 << 8 | 225, 0x4142);
         TEST.due("frequency(0)", desk.frequency(0), -1);
         TEST.due("reports(3)", desk.reports(3), 0);
-        TEST.due("state(2)", desk.state(2), 4);
         TEST.due("state(7)", desk.state(7), 1);
         TEST.due("other(0, 0)", desk.other(0, 0), -1);
         sender.typed(7, 28, 0, 0, 8);

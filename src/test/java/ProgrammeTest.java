@@ -103,9 +103,11 @@ public final class ProgrammeTest {
         TEST.due("state(4)", desk.state(4), 1);
         TEST.about("8: what was under way goes with it");
         sender.typed(8, 0, 0, 9 << 8 | 9, 0x4142);
+        sender.typed(8, 0, 0, 9 << 8 | 9, 0x4142);
         TEST.due("reports(3)", desk.reports(3), 0);
         TEST.due("marks(0)", desk.marks(0), 1);
         TEST.about("8: the same GROUP is taken behind that");
+        sender.typed(8, 0, 0, 226 << 8 | 250, 0x4142);
         sender.typed(9, 0, 0b11000, 225 << 8 | 9, 0x4142);
         due(sender, 0, 9);
         due(sender, 3, 1);
