@@ -1,5 +1,5 @@
 /** Counts the answers that are not the ones that are due. */
-final class Due {
+class Due {
     private final String test;
     private String about = "";
     private int asked;
@@ -21,8 +21,13 @@ final class Due {
         }
         wrong++;
         if (wrong <= 50) {
-            System.out.println(about + ": " + call + " answered " + got + ", due is " + want);
+            tell(about + ": " + call + " answered " + got + ", due is " + want);
         }
+    }
+
+    /** Where a wrong answer is told. */
+    void tell(String line) {
+        System.out.println(line);
     }
 
     void due(String call, boolean got, boolean want) {

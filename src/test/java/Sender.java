@@ -13,6 +13,8 @@ final class Sender {
     static final int WRONG_BITS = 0b1000001;
 
     final RdsDesk desk;
+    /** Calls of the desk, as far as they go through here or are counted by who asks. */
+    int calls;
 
     Sender() {
         this(new RdsDesk());
@@ -43,6 +45,7 @@ final class Sender {
     void words(int... words) {
         for (int word : words) {
             desk.feed(word, 26);
+            calls++;
         }
     }
 
