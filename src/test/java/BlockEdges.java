@@ -161,7 +161,16 @@ final class BlockEdges {
 
     private static void constants(Edges t) {
         t.edge(1, "The constants: `NONE = -1`: None.");
-        t.due("NONE", RdsDesk.NONE, -1);
+        t.due("NONE", declaredNone(), -1);
+    }
+
+    /** As the class has it now: the compiler writes a constant's value into the classes that use it. */
+    private static int declaredNone() {
+        try {
+            return RdsDesk.class.getField("NONE").getInt(null);
+        } catch (ReflectiveOperationException thrown) {
+            return 0;
+        }
     }
 
     private static void newObject(Edges t) {
@@ -294,6 +303,7 @@ final class BlockEdges {
         t.state(sender, 7, 1);
         t.group(sender, -1, -1, 0, 0, 3, 3, 0, 0, -1);
         // Nor is a list, a name or a byte of long waves under way, nor an ODA or an OTHER kept.
+        sender.typed(PI + 1, 0, 1, 9 << 8 | 10, 0x4142);
         sender.typed(PI + 1, 0, 1, 9 << 8 | 10, 0x4142);
         sender.typed(PI + 1, 22, 0, 0x1234, 0x5678);
         sender.typed(PI + 1, 28, 0, 0x4142, 8);

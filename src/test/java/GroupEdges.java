@@ -145,6 +145,7 @@ final class GroupEdges {
         t.state(sender, 7, 1);
         // What was under way is gone too: a list, the byte behind a 250, the PIECES.
         sender.typed(PI ^ 0x8000, 0, 1, 9 << 8 | 10, 0x4142);
+        sender.typed(PI ^ 0x8000, 0, 1, 9 << 8 | 10, 0x4142);
         sender.typed(PI ^ 0x8000, 22, 0, 0x1234, 0x5678);
         t.list(sender, 0);
         t.marks(sender, 0, 2);
@@ -264,6 +265,13 @@ final class GroupEdges {
                 leftOut(t, sender, type, c, d);
             }
         }
+        // A list that is under way has nothing of an unknown C.
+        Sender sender = Sender.synced(PI);
+        sender.typed(PI, 0, 0, 226 << 8 | 1, 0);
+        sender.typed(PI, 0, 0, R, 0);
+        t.list(sender, 0);
+        sender.typed(PI, 0, 0, 2 << 8 | 3, R);
+        t.list(sender, 1, 87600, 87700);
     }
 
     private static void leftOut(Edges t, Sender sender, int type, boolean c, boolean d) {
@@ -552,16 +560,13 @@ final class GroupEdges {
 
     private static void programmeWhats(Edges t) {
         t.edge(8, "0 PI, 1 TP, 2 PTY, 3 TA, 4 MS,");
-        Sender sender = Sender.synced(0xFFFF);
-        sender.group(0xFFFF, Sender.second(1, 1, 31, 0b11000), 0xFFFF, R);
-        int[] most = {0xFFFF, 1, 31, 1, 1};
-        for (int what = 0; what < most.length; what++) {
-            t.programme(sender, what, most[what]);
-        }
-        sender = Sender.synced(0);
-        sender.group(0, Sender.second(1, 0, 0, 0), 0, R);
-        for (int what = 0; what < most.length; what++) {
-            t.programme(sender, what, 0);
+        int[][] rows = {{0xFFFF, 1, 31, 1, 0}, {0, 0, 0, 0, 1}, {1, 1, 0, 0, 0}, {0x8000, 0, 16, 1, 1}};
+        for (int[] row : rows) {
+            Sender sender = Sender.synced(row[0]);
+            sender.group(row[0], Sender.second(1, row[1], row[2], row[3] << 4 | row[4] << 3), row[0], R);
+            for (int what = 0; what < row.length; what++) {
+                t.programme(sender, what, row[what]);
+            }
         }
     }
 

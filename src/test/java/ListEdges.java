@@ -78,10 +78,13 @@ final class ListEdges {
             }
         }
         // The ones next to them begin none.
-        int[] next = {223, 250, 251, 255};
+        int[] next = {223, 251, 255};
         for (int code : next) {
             t.list(sent(code, 9, 9, 9), 0);
+            t.list(sent(226, code, 9), 1, 0, 88400);
         }
+        t.list(sent(250, 9, 9, 9), 0);
+        t.list(sent(226, 250, 9, 9), 1, 225, 88400);
     }
 
     private static void listUnderWayIsGone(Edges t) {
@@ -247,11 +250,13 @@ final class ListEdges {
             }
             t.oda(sender, 8);
         }
-        // The same AID of another type is no second one.
+        // The same AID of another type, or with another C, is no second one.
         Sender sender = Sender.synced(PI);
         sendOda(sender, 1, 1, 0);
         sendOda(sender, 2, 1, 0);
         t.oda(sender, 0, 0, 2, 1);
+        sendOda(sender, 2, 3, 0);
+        t.oda(sender, 0, 0, 2, 3);
         t.oda(sender, 1);
     }
 
