@@ -27,6 +27,7 @@ final class BlockEdges {
         setRefuses(t);
         forgets(t);
         forgetsOnANewDesk(t);
+        forgetsAndBeginsAnew(t);
         forgetKeeps(t);
     }
 
@@ -324,6 +325,26 @@ final class BlockEdges {
         desk.feed(Sender.block(0, Sender.B), 26);
         t.due("state(0)", desk.state(0), 0);
         t.due("state(1)", desk.state(1), 26);
+    }
+
+    /** Behind it all comes as it came the first time, and what was counted counts from 0 on. */
+    private static void forgetsAndBeginsAnew(Edges t) {
+        t.edge(5, "All is as at first,");
+        Sender sender = Sender.filled(PI);
+        sender.desk.forget();
+        sender.typed(PI, 22, 0, 0, 0);
+        sender.fill(PI);
+        t.alike(sender, Sender.filled(PI));
+        sender = Sender.synced(PI);
+        sender.desk.set(5, 2);
+        sender.words(Sender.block(PI, Sender.A) ^ 1);
+        sender.one(R, Sender.B);
+        sender.one(R, Sender.C);
+        for (int what = 1; what <= 8; what++) {
+            t.due("state(" + what + ") > 0", sender.desk.state(what) > 0, true);
+        }
+        sender.desk.forget();
+        BlocksTest.asNew(t, sender.desk);
     }
 
     private static void forgetKeeps(Edges t) {

@@ -207,6 +207,7 @@ final class DraftEdges {
             t.reports(sender, KIND, 1);
             t.letters(sender, KIND, "ABCDEFGH");
         }
+        flagIsOneBit(t, 20, KIND);
         // Of a PIECE that did not come, for C or D is not known, the FLAG says nothing.
         Sender sender = Sender.synced(PI);
         kind(sender, 0, 0, "ABCD");
@@ -214,6 +215,18 @@ final class DraftEdges {
         sender.typed(PI, 20, 16, 0x4142, R);
         kind(sender, 0, 1, "EFGH");
         t.reports(sender, KIND, 1);
+    }
+
+    /** PTY's lowest bit stands next to it, and is no part of it. */
+    private static void flagIsOneBit(Edges t, int type, int what) {
+        for (int flag = 0; flag <= 1; flag++) {
+            Sender sender = Sender.synced(PI);
+            sender.group(PI, Sender.second(type, 0, 0, flag << 4), 0x4142, 0x4142);
+            t.marks(sender, what, 1);
+            sender.group(PI, Sender.second(type, 0, 1, flag << 4 | 1), 0x4142, 0x4142);
+            t.marks(sender, what, what == KIND ? 0 : 3);
+            t.reports(sender, what, what == KIND ? 1 : 0);
+        }
     }
 
     private static void textPieces(Edges t) {
@@ -249,6 +262,8 @@ final class DraftEdges {
                 t.marks(sender, TEXT, before == then ? 15 : 8);
             }
         }
+        flagIsOneBit(t, 4, TEXT);
+        flagIsOneBit(t, 5, TEXT);
         // A 13 that came with another FLAG ends nothing any more.
         Sender sender = Sender.synced(PI);
         longPiece(sender, 0, 1, "E\rGH");
@@ -313,7 +328,15 @@ final class DraftEdges {
         longPiece(sender, 0, 0, "ABCD");
         t.letters(sender, TEXT, "ABCDE");
         t.marks(sender, TEXT, 0);
-        // A 13 that is there, but in a PIECE that is not MARKED, is none.
+        // A 13 that is there, but in a PIECE that is not MARKED, is none: be it the next byte behind those that are.
+        longPiece(sender, 0, 1, "\rFGH");
+        longPiece(sender, 0, 0, "ABCD");
+        t.reports(sender, TEXT, 2);
+        longPiece(sender, 0, 0, "WXYZ");
+        t.reports(sender, TEXT, 2);
+        sender = Sender.synced(PI);
+        longPiece(sender, 0, 1, "E\rGH");
+        longPiece(sender, 0, 0, "ABCD");
         longPiece(sender, 0, 0, "ABCD");
         t.reports(sender, TEXT, 1);
         t.marks(sender, TEXT, 1);

@@ -133,4 +133,23 @@ final class Edges extends Due {
             due("otherLetter(" + k + ", " + i + ")", asked(sender).otherLetter(k, i), isThere ? want.charAt(i) : -1);
         }
     }
+
+    /** That two desks know the same of what GROUPS tell and what is put together. */
+    void alike(Sender sender, Sender model) {
+        for (int what = 0; what <= 12; what++) {
+            programme(sender, what, asked(model).programme(what));
+            reports(sender, what, asked(model).reports(what));
+            marks(sender, what, asked(model).marks(what));
+            due("time(" + what + ")", asked(sender).time(what), asked(model).time(what));
+            due("tag(" + what + ")", asked(sender).tag(what), asked(model).tag(what));
+            due("frequency(" + what + ")", asked(sender).frequency(what), asked(model).frequency(what));
+            due("other(0, " + what + ")", asked(sender).other(0, what), asked(model).other(0, what));
+            due("otherLetter(0, " + what + ")", asked(sender).otherLetter(0, what), asked(model).otherLetter(0, what));
+            due("oda(0, " + what + ")", asked(sender).oda(0, what), asked(model).oda(0, what));
+            for (int whose = 0; whose <= 4; whose++) {
+                due("letter(" + whose + ", " + what + ")", asked(sender).letter(whose, what),
+                        asked(model).letter(whose, what));
+            }
+        }
+    }
 }

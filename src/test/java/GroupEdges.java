@@ -14,6 +14,7 @@ final class GroupEdges {
         anotherIdentity(t);
         sameIdentity(t);
         firstIdentity(t);
+        anotherIdentityBeginsAnew(t);
         aheadOfWhatFollows(t);
         withoutBlockOne(t);
         blockOne(t);
@@ -160,6 +161,15 @@ final class GroupEdges {
         nothingOfTwoAndThree(t, sender);
     }
 
+    private static void anotherIdentityBeginsAnew(Edges t) {
+        t.edge(8, "If it is another one than the PI of before (that there is one), all of 2 and 3 is as at first "
+                + "ahead of what follows.");
+        Sender sender = Sender.filled(PI);
+        sender.typed(PI + 1, 22, 0, 0, 0);
+        sender.fill(PI + 1);
+        t.alike(sender, Sender.filled(PI + 1));
+    }
+
     /** The same PI, from BLOCK 0, from BLOCK 2, or none at all: nothing goes. */
     private static void sameIdentity(Edges t) {
         t.edge(8, "If it is another one than the PI of before (that there is one), all of 2 and 3 is as at first "
@@ -265,6 +275,17 @@ final class GroupEdges {
                 leftOut(t, sender, type, c, d);
             }
         }
+        // Nor does a variant of an OTHER come of an unknown C.
+        for (int v = 0; v < 16; v++) {
+            Sender sender = Sender.synced(PI);
+            sender.typed(PI, 28, v, R, 8);
+            t.other(sender, 0, 8, 0, -1, -1, -1, -1, -1, -1, -1, -1, -1, 0);
+            for (int piece = 0; piece < 4; piece++) {
+                t.due("other(0, 11)", sender.desk.other(0, 11), 0);
+                sender.typed(PI, 28, piece, R, 8);
+            }
+            t.due("other(0, 11)", sender.desk.other(0, 11), 0);
+        }
         // A list that is under way has nothing of an unknown C.
         Sender sender = Sender.synced(PI);
         sender.typed(PI, 0, 0, 226 << 8 | 1, 0);
@@ -283,6 +304,8 @@ final class GroupEdges {
         t.programme(sender, 5, hasSwitches ? 2 : -1);
         t.programme(sender, 6, (type == 2 || type == 3) && d ? 5 : -1);
         t.programme(sender, 7, type == 2 && c ? 0xE1 : -1);
+        t.programme(sender, 8, -1);
+        t.programme(sender, 9, -1);
         t.marks(sender, 0, type <= 1 && d ? 4 : 0);
         t.marks(sender, 1, type == 4 && c && d || type == 5 && d ? 1 << 14 : 0);
         t.marks(sender, 2, type == 20 && c && d ? 1 : 0);

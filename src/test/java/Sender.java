@@ -76,24 +76,28 @@ final class Sender {
     /** A desk in sync that knows something of everything, with a list, a name and a kind under way. */
     static Sender filled(int pi) {
         Sender sender = synced(pi);
-        for (int s = 0; s < 4; s++) {
-            sender.typed(pi, 0, 0b11100 | s, 225 << 8 | 9, 0x4142);
-        }
-        sender.typed(pi, 0, 0, 227 << 8 | 250, 0x4142);
-        sender.typed(pi, 2, 0, 0x00E1, 1);
-        sender.typed(pi, 2, 0, 0x3005, 1);
-        sender.typed(pi, 2, 0, 0x7123, 1);
-        sender.typed(pi, 4, 0, 0x410D, 0x4142);
-        sender.typed(pi, 4, 3, 0x410D, 0x4142);
-        sender.typed(pi, 6, 22, 0xABCD, 19415);
-        sender.typed(pi, 8, 1, 0x1234, 0x0001);
-        sender.typed(pi, 20, 0, 0x4142, 0x4344);
-        sender.typed(pi, 20, 1, 0x4142, 0x4344);
-        sender.typed(pi, 20, 1, 0x4142, 0x4344);
-        sender.typed(pi, 22, 31, 0x1234, 0x5678);
-        for (int v = 0; v < 16; v++) {
-            sender.typed(pi, 28, 16 | v, 0x4142, 8);
-        }
+        sender.fill(pi);
         return sender;
+    }
+
+    void fill(int pi) {
+        for (int s = 0; s < 4; s++) {
+            typed(pi, 0, 0b11100 | s, 225 << 8 | 9, 0x4142);
+        }
+        typed(pi, 0, 0, 227 << 8 | 250, 0x4142);
+        typed(pi, 2, 0, 0x00E1, 1);
+        typed(pi, 2, 0, 0x3005, 1);
+        typed(pi, 2, 0, 0x7123, 1);
+        typed(pi, 4, 0, 0x410D, 0x4142);
+        typed(pi, 4, 3, 0x410D, 0x4142);
+        typed(pi, 6, 22, 0xABCD, 19415);
+        typed(pi, 8, 1, 0x1234, 0x0001);
+        typed(pi, 20, 0, 0x4142, 0x4344);
+        typed(pi, 20, 1, 0x4142, 0x4344);
+        typed(pi, 20, 1, 0x4142, 0x4344);
+        typed(pi, 22, 31, 0x1234, 0x5678);
+        for (int v = 0; v < 16; v++) {
+            typed(pi, 28, 16 | v, 0x4142, 8);
+        }
     }
 }

@@ -22,6 +22,7 @@ final class SyncEdges {
         known(t);
         fiftyCount(t);
         countFromTheSync(t);
+        countOfTheNextSync(t);
         lossOrMore(t);
         lossOfFiftyAmongFifty(t);
         lossesEdges(t);
@@ -332,8 +333,16 @@ final class SyncEdges {
             }
             t.state(sender, 4, bad);
         }
+        // The very first one that was LOOKED AT, by the SYNC of B and C behind it.
+        Sender sender = new Sender();
+        for (int i = 0; i < 50; i++) {
+            sender.one(i == 0 ? R : 0, i % 4);
+        }
+        t.state(sender, 10, 1);
+        sender.one(0, 50 % 4);
+        t.state(sender, 10, 0);
         // One that goes while another one comes.
-        Sender sender = Sender.synced(PI);
+        sender = Sender.synced(PI);
         for (int i = 0; i < 102; i++) {
             sender.one(i % 50 == 0 ? R : 0, i % 4);
             t.state(sender, 10, 1);
@@ -368,6 +377,28 @@ final class SyncEdges {
         t.state(sender, 10, 2);
         t.state(sender, 0, 1);
         sender = twoHits(Sender.B, 3, Sender.A);
+        t.state(sender, 10, 0);
+    }
+
+    /** Fifty and more of an earlier SYNC, BAD ones among them: the next SYNC counts from none on. */
+    private static void countOfTheNextSync(Edges t) {
+        t.edge(6, "(from the SYNC on, with those ahead of it):");
+        Sender sender = Sender.synced(PI);
+        sender.desk.set(5, 20);
+        for (int i = 0; i < 56; i++) {
+            sender.one(i % 3 == 0 ? R : 0, i % 4);
+        }
+        t.state(sender, 8, 0);
+        for (int i = 56; sender.desk.state(0) == 1 && i < 80; i++) {
+            sender.one(R, i % 4);
+        }
+        t.state(sender, 8, 1);
+        sender.one(R, Sender.A);
+        for (int i = 1; i < 50; i++) {
+            sender.one(0, i % 4);
+            t.state(sender, 10, i == 1 ? 0 : 1);
+        }
+        sender.one(0, 50 % 4);
         t.state(sender, 10, 0);
     }
 
