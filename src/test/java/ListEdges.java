@@ -1,3 +1,5 @@
+import java.util.Arrays;
+
 /** Edges of the Terms AF, ODAS and OTHERS, and of promises 12, 14, 16 and 17. */
 final class ListEdges {
     private static final int R = Sender.RUINED;
@@ -197,7 +199,7 @@ final class ListEdges {
         send(sender, 2, 3);
         t.list(sender, 1, 87600);
         int[] bytes = new int[26];
-        java.util.Arrays.fill(bytes, 7);
+        Arrays.fill(bytes, 7);
         bytes[0] = 249;
         sender = sent(bytes);
         send(sender, 8, 9);

@@ -154,14 +154,14 @@ public final class MatchTest {
     }
 
     private void ask() {
-        int k = random.nextInt(10) - 1;
-        int what = random.nextInt(14) - 1;
+        int k = argument(10);
+        int what = argument(14);
         switch (random.nextInt(15)) {
             case 0: due("state(" + what + ")", desk.state(what), model.state(what)); break;
             case 1: due("group(" + what + ")", desk.group(what), model.group(what)); break;
             case 2: due("programme(" + what + ")", desk.programme(what), model.programme(what)); break;
             case 3: due("reports(" + what + ")", desk.reports(what), model.reports(what)); break;
-            case 4: case 5: askLetter(random.nextInt(5), random.nextInt(random.nextInt(5) == 0 ? 66 : 10) - 1); break;
+            case 4: case 5: askLetter(argument(7), argument(random.nextInt(5) == 0 ? 66 : 10)); break;
             case 6: due("marks(" + k + ")", desk.marks(k), model.marks(k)); break;
             case 7: due("frequency(" + k + ")", desk.frequency(k), model.frequency(k)); break;
             case 8: due("time(" + what + ")", desk.time(what), model.time(what)); break;
@@ -174,6 +174,14 @@ public final class MatchTest {
                 break;
             default: askBlock(random.nextInt(), random.nextInt(7) - 1); break;
         }
+    }
+
+    /** From -1 on, so many; now and then any number at all. */
+    private int argument(int count) {
+        if (random.nextInt(15) == 0) {
+            return any(Integer.MIN_VALUE, Integer.MAX_VALUE, -2, 255, 256, random.nextInt());
+        }
+        return random.nextInt(count) - 1;
     }
 
     private void askLetter(int what, int k) {
