@@ -42,6 +42,7 @@ public final class RdsDesk {
         }
         for (int i = n - 1; i >= 0; i--) {
             if (receiver.accept(bits >>> i & 1)) {
+                // A copy, since the one at hand is filled anew while the latest one can still be asked about.
                 latest.copy(receiver.atHand);
                 station.take(latest);
             }
@@ -155,7 +156,6 @@ public final class RdsDesk {
         return letter < 0 || letter >= OFFSETS.length ? NONE : OFFSETS[letter];
     }
 
-    /** REST of 26 bits. */
     private static int rest(int bits) {
         int left = bits;
         for (int i = BLOCK_BITS - 1; i >= CHECK_BITS; i--) {
@@ -365,6 +365,7 @@ public final class RdsDesk {
             losses = 0;
         }
 
+        /** The words of before may stay: 'came' keeps them out of this SEARCH. */
         private void beginSearch() {
             window.clear();
             came = 0;
@@ -394,6 +395,7 @@ public final class RdsDesk {
 
         /** The PLACE of a HIT that is SYNC; NONE without one. */
         private int search() {
+            // More are never looked back at.
             came = Math.min(came + 1, ENOUGH_BITS);
             newest = newest >= 0 && newest + 1 < WORDS ? newest + 1 : 0;
             words[newest] = word;
@@ -681,6 +683,7 @@ public final class RdsDesk {
             key = NONE;
         }
 
+        /** The bytes may stay: without MARKS and a length none of them counts. */
         void clear() {
             marked = 0;
             key = NONE;
@@ -845,7 +848,7 @@ public final class RdsDesk {
         }
     }
 
-    /** The TIME. */
+    /** The TIME; its dates are worked out when they are asked for, as most never are. */
     private static final class Clock {
         static final int DAY_MINUTES = 24 * 60;
         static final int MOST_OFFSET = 28;
